@@ -41,7 +41,7 @@ public final class CopiedGraphs {
     private static final int DETACHES = 4;
     private static final int GIVEN_NUMBER = 7;
 
-    /** Marks 0 .. 5 are the kinds; an object's own mark is its type behind FIRST_TYPE_MARK. */
+    // What comes next is told by a mark: up to 5 a kind, from FIRST_TYPE_MARK on an object's type.
     private static final int ROW_MARK = 6;
     private static final int HANDED_MARK = 7;
     private static final int FIRST_TYPE_MARK = 8;
@@ -412,11 +412,7 @@ public final class CopiedGraphs {
                 setValue(i, NONE, 0);
             }
             setValue(place, kind, number);
-            lengthenTo(place + 1);
-        }
-
-        void lengthenTo(int length) {
-            count = Math.max(count, length);
+            count = Math.max(count, place + 1);
         }
 
         boolean makeHole(int place) {
@@ -937,15 +933,16 @@ public final class CopiedGraphs {
         private long nextLengthy(Bytes bytes) {
             long sum = 0;
             for (int i = 0; i < MOST_LENGTHY_BYTES; i++) {
-                int b = i + 1 < MOST_LENGTHY_BYTES ? nextByte(bytes) : nextUpTo(bytes, 1);
+                int b = nextByte(bytes);
                 sum |= (long) (b & 127) << (7 * i);
                 if (b < 128) {
-                    if (b == 0 && i > 0) {
-                        wrong = true;
-                    }
+                    boolean needless = i > 0 && b == 0;
+                    boolean tooLarge = i == MOST_LENGTHY_BYTES - 1 && b > 1;
+                    wrong = wrong || needless || tooLarge;
                     return sum;
                 }
             }
+            wrong = true;
             return sum;
         }
 
@@ -1051,6 +1048,7 @@ public final class CopiedGraphs {
         }
 
         private void readObject(Store store, Bytes bytes, int sort, int depth) {
+            // Kept, since what is in the object is made before the value is settled.
             int made = store.count;
             Thing thing = beginThing(store, sort);
             if (thing == null) {

@@ -19,6 +19,7 @@ public final class ReadTest {
         handed();
         depth();
         room();
+        longest();
         ringsAnew();
         Check.end();
     }
@@ -43,7 +44,7 @@ public final class ReadTest {
     private static void wrongPlainValues() {
         CopiedGraphs x = new CopiedGraphs();
         Check.reads("20: found before", x, 4, 21, 15, 4, 42);
-        int[][] wrong = {{}, {15}, {14}, {0}, {1}, {14, 1}, {16, 1}, {15, 15}, {15, 16},
+        int[][] wrong = {{}, {15}, {14}, {0}, {1}, {14, 1}, {16, 1}, {15, 15}, {15, 15, 0}, {15, 16},
             {15, 255}, {15, 128}, {15, 1, 1}, {15, 0, 0}, {15, 4}, {15, 4, 128}, {15, 4, 1, 0},
             {15, 4, 128, 0}, {15, 4, 255, 0}, {15, 4, 128, 128, 0}, {15, 4, 255, 255, 255, 255, 16},
             {15, 4, 128, 128, 128, 128, 16}, {15, 4, 255, 255, 255, 255, 31},
@@ -103,6 +104,7 @@ public final class ReadTest {
             {15, 8, 0, 0}, {15, 8, 1, 0, 1, 2}, {15, 8, 1, 0, 1, 1, 0, 1, 0},
             {15, 8, 1, 1, 1, 1, 2, 1, 1, 1, 2, 0}, {15, 8, 1, 128, 0, 1, 0},
             {15, 8, 1, 255, 255, 255, 255, 16, 1, 0}, {15, 8, 1, 0, 15, 0}, {15, 8, 255},
+            {15, 9, 2, 1, 8, 1, 0, 1, 1, 0, 1, 0},
             {15, 8, 1, 0, 1, 1, 2, 1, 1, 4, 1, 1, 6, 1, 1, 8, 1, 1, 10, 1, 1, 12, 1, 0}};
         for (int[] bytes : wrong) {
             Check.wrongBytes("19: wrong " + java.util.Arrays.toString(bytes), x, bytes);
@@ -287,6 +289,8 @@ public final class ReadTest {
         Check.wrongBytes("19: a property at depth 13", x, nest(11, 8, 1, 0, 1, 0));
         Check.wrongBytes("19: an entry at depth 13", x, nest(11, 10, 1, 1, 1));
         Check.wrongBytes("19: a member at depth 13", x, nest(11, 11, 1, 1));
+        Check.wrongBytes("19: in a key at depth 13", x, nest(10, 10, 1, 9, 1, 1, 1, 1));
+        Check.wrongBytes("19: in an entry at depth 13", x, nest(10, 10, 1, 1, 9, 1, 1, 1));
         Check.wrongBytes("19: very deep", x, nest(90, 1));
     }
 
@@ -314,6 +318,27 @@ public final class ReadTest {
         Check.due("17: holders", y.holders(), 2);
         y.make(0);
         Check.wrongBytes("19: no room at all", y, 15, 7, 0);
+    }
+
+    /** The longest bytes that there can be, and yet one is wanting. */
+    private static void longest() {
+        CopiedGraphs x = new CopiedGraphs();
+        x.feed(0x08090FL, 3);
+        for (int i = 0; i < 5; i++) {
+            x.feed(0x080901L, 3);
+            for (int k = 0; k < 8; k++) {
+                x.feed(0x01010101040501L, 7);
+            }
+        }
+        Check.due("21: 300 bytes", x.feed(0x0501, 2), 300);
+        Check.badArgument("19: a byte is wanting", () -> x.read());
+        Check.due("19: no objects", x.objects(), 0);
+        x.spoil(299, 1);
+        Check.badArgument("19: places are wanting", () -> x.read());
+        x.spoil(2, 6);
+        Check.due("19: 300 bytes are read", x.read(), 6);
+        Check.due("19: objects", x.objects(), 6);
+        Check.part("19: the last place", x, 0, 5, 5, 1, 0);
     }
 
     private static void ringsAnew() {

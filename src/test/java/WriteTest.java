@@ -240,6 +240,9 @@ public final class WriteTest {
         CopiedGraphs x = new CopiedGraphs();
         x.make(0);
         x.put(0, 0, 8, 3 + 8 * 9);
+        for (int i = 1; i < 10; i++) {
+            x.buffer(i, 1);
+        }
         for (int key = 1; key < 6; key++) {
             x.put(0, key, 1, 0);
         }
@@ -249,6 +252,7 @@ public final class WriteTest {
         x.take(0, 5);
         x.write(6, 0);
         Check.part("18: the sixth is given", x, 0, 5, 9, 4, 7);
+        Check.due("18: giving detaches nothing", x.size(9), 1);
     }
 
     private static void keysBelowNull() {
@@ -290,7 +294,7 @@ public final class WriteTest {
         x.make(0);
         x.buffer(1, 1);
         x.put(0, 1, 8, 4 + 8);
-        x.put(0, 2, 8, 1 + 8 * 7);
+        x.put(0, 2, 8, 1 + 8 * 3);
         x.put(0, 3, 8, 3 + 8 * 9);
         Check.harmed("18: a getter throws", () -> x.write(6, 0));
         Check.bytes("18: the bytes stay", x, 15, 4, 6);
@@ -376,6 +380,21 @@ public final class WriteTest {
         map.put(10, 0, 6, 11);
         map.entry(11, 1, 0, 1, 0);
         Check.badArgument("18: a map's key at depth 13", () -> map.write(6, 0));
+        CopiedGraphs pairs = nest(10);
+        pairs.make(2);
+        pairs.make(1);
+        pairs.put(9, 0, 6, 10);
+        pairs.put(11, 0, 1, 0);
+        pairs.entry(10, 6, 11, 1, 0);
+        Check.badArgument("18: in a map's key at depth 13", () -> pairs.write(6, 0));
+        Check.due("18: in a map's key at depth 12", pairs.write(6, 1), 1 + 3 * 9 + 2 + 5);
+        CopiedGraphs values = nest(10);
+        values.make(2);
+        values.make(1);
+        values.put(9, 0, 6, 10);
+        values.put(11, 0, 1, 0);
+        values.entry(10, 1, 0, 6, 11);
+        Check.badArgument("18: in a map's value at depth 13", () -> values.write(6, 0));
         CopiedGraphs set = nest(11);
         set.make(3);
         set.put(10, 0, 6, 11);
