@@ -364,6 +364,16 @@ public final class WriteTest {
         Check.due("18: an empty record at depth 12", record.write(6, 0), 1 + 3 * 11 + 2);
     }
 
+    /** Map 10 is at depth 11; list 11, with one value, is in nothing yet. */
+    private static CopiedGraphs mapAndList() {
+        CopiedGraphs x = nest(10);
+        x.make(2);
+        x.make(1);
+        x.put(9, 0, 6, 10);
+        x.put(11, 0, 1, 0);
+        return x;
+    }
+
     private static void viewDepth() {
         CopiedGraphs x = nest(11);
         x.buffer(1, 1);
@@ -380,21 +390,13 @@ public final class WriteTest {
         map.put(10, 0, 6, 11);
         map.entry(11, 1, 0, 1, 0);
         Check.badArgument("18: a map's key at depth 13", () -> map.write(6, 0));
-        CopiedGraphs pairs = nest(10);
-        pairs.make(2);
-        pairs.make(1);
-        pairs.put(9, 0, 6, 10);
-        pairs.put(11, 0, 1, 0);
-        pairs.entry(10, 6, 11, 1, 0);
-        Check.badArgument("18: in a map's key at depth 13", () -> pairs.write(6, 0));
-        Check.due("18: in a map's key at depth 12", pairs.write(6, 1), 1 + 3 * 9 + 2 + 5);
-        CopiedGraphs values = nest(10);
-        values.make(2);
-        values.make(1);
-        values.put(9, 0, 6, 10);
-        values.put(11, 0, 1, 0);
-        values.entry(10, 1, 0, 6, 11);
-        Check.badArgument("18: in a map's value at depth 13", () -> values.write(6, 0));
+        CopiedGraphs key = mapAndList();
+        key.entry(10, 6, 11, 1, 0);
+        Check.badArgument("18: in a map's key at depth 13", () -> key.write(6, 0));
+        Check.due("18: in a map's key at depth 12", key.write(6, 1), 1 + 3 * 9 + 2 + 5);
+        CopiedGraphs value = mapAndList();
+        value.entry(10, 1, 0, 6, 11);
+        Check.badArgument("18: in a map's value at depth 13", () -> value.write(6, 0));
         CopiedGraphs set = nest(11);
         set.make(3);
         set.put(10, 0, 6, 11);
