@@ -20,6 +20,26 @@ final class Check {
         }
     }
 
+    static void same(String what, String got, String want) {
+        calls++;
+        if (!got.equals(want)) {
+            int from = Math.max(0, firstDifference(got, want) - 40);
+            report(what + " is .. " + shortened(got, from) + ", due is .. " + shortened(want, from));
+        }
+    }
+
+    private static int firstDifference(String got, String want) {
+        int i = 0;
+        while (i < got.length() && i < want.length() && got.charAt(i) == want.charAt(i)) {
+            i++;
+        }
+        return i;
+    }
+
+    private static String shortened(String text, int from) {
+        return text.substring(from, Math.min(text.length(), from + 120));
+    }
+
     static void yes(String what, boolean got) {
         due(what, got ? 1 : 0, 1);
     }
@@ -71,11 +91,16 @@ final class Check {
         bytes(what, x, want);
     }
 
-    /** The bytes become these. */
+    /** The bytes become these; eight are fed at once, since an object has 512 calls. */
     static void fill(CopiedGraphs x, int... bytes) {
         x.wipe();
-        for (int b : bytes) {
-            x.feed(b, 1);
+        for (int from = 0; from < bytes.length; from += 8) {
+            int count = Math.min(8, bytes.length - from);
+            long word = 0;
+            for (int i = 0; i < count; i++) {
+                word |= (long) bytes[from + i] << (8 * i);
+            }
+            x.feed(word, count);
         }
     }
 

@@ -329,14 +329,7 @@ public final class WriteTest {
 
     /** Lists in lists; the last one, at this depth, is left empty. */
     private static CopiedGraphs nest(int depth) {
-        CopiedGraphs x = new CopiedGraphs();
-        for (int i = 0; i < depth; i++) {
-            x.make(1);
-        }
-        for (int i = 0; i + 1 < depth; i++) {
-            x.put(i, 0, 6, i + 1);
-        }
-        return x;
+        return Scenes.made(Scenes.nest(depth));
     }
 
     private static void depth() {
@@ -406,33 +399,7 @@ public final class WriteTest {
 
     /** A list whose writing takes this many bytes (from 200 to 330), its last place free. */
     private static CopiedGraphs listOfLength(int bytes) {
-        CopiedGraphs x = new CopiedGraphs();
-        x.make(1);
-        int left = bytes - 3;
-        for (int i = 0; i < 7; i++) {
-            int list = x.make(1);
-            x.put(0, i, 6, list);
-            left -= 3;
-            for (int k = 0; k < 8; k++) {
-                int part = Math.min(7, left - (7 - k) - (6 - i) * 11);
-                fillPlace(x, list, k, part);
-                left -= Math.max(part, 1);
-            }
-        }
-        return x;
-    }
-
-    /** Gives a place a value that takes this many bytes with its 1, or a hole. */
-    private static void fillPlace(CopiedGraphs x, int list, int k, int bytes) {
-        if (bytes <= 2) {
-            x.put(list, k, 1, 0);
-            if (bytes <= 1) {
-                x.take(list, k);
-            }
-        } else {
-            int[] texts = {0, 1, 0x101, 0x10101, 0x1010101};
-            x.put(list, k, 5, texts[bytes - 3]);
-        }
+        return Scenes.made(Scenes.listOfLength(bytes));
     }
 
     private static void lengthLimit() {
