@@ -64,6 +64,9 @@ public final class ObjectEdgesTest {
         getWhat();
         getView();
         getStamp();
+        firstInTheThrowsClause();
+        throwingChangesNothing();
+        throwingChangesNothingWhenAllIsFull();
         Check.end();
     }
 
@@ -664,5 +667,93 @@ public final class ObjectEdgesTest {
         for (int k : new int[] {MIN, -1, 1, MAX}) {
             Edge.refuses("k = " + k, x -> x.stamp(5), x -> x.get(0, k, 0), Edge.BOUNDS);
         }
+    }
+
+    private static void firstInTheThrowsClause() {
+        Edge.sentence("Of several exceptions the one that stands first in the throws clause is thrown.");
+        Edge.Scene full = Edge.then(FULL, Scenes.more(24));
+        Edge.refuses("make", full, x -> x.make(0), Edge.STATE);
+        Edge.refuses("make, both", full, x -> x.make(4), Edge.ARGUMENT);
+        Edge.refuses("buffer", full, x -> x.buffer(0, 0), Edge.STATE);
+        Edge.refuses("buffer, both", full, x -> x.buffer(0, 9), Edge.ARGUMENT);
+        Edge.refuses("view", full, x -> x.view(4, 1, 0, 8), Edge.STATE);
+        Edge.refuses("view, both", full, x -> x.view(4, 1, 0, 9), Edge.ARGUMENT);
+        Edge.refuses("put", full, x -> x.put(0, 0, 8, 0), Edge.STATE);
+        Edge.refuses("put, both", full, x -> x.put(0, 0, 9, 0), Edge.ARGUMENT);
+        Edge.refuses("entry", full, x -> x.entry(2, 7, 0, 7, 0), Edge.STATE);
+        Edge.refuses("entry, both, by its key", full, x -> x.entry(2, 8, 0, 7, 0), Edge.ARGUMENT);
+        Edge.refuses("entry, both, by its value", full, x -> x.entry(2, 7, 0, 8, 0), Edge.ARGUMENT);
+        Edge.refuses("add", full, x -> x.add(3, 7, 0), Edge.STATE);
+        Edge.refuses("add, both", full, x -> x.add(3, 8, 0), Edge.ARGUMENT);
+        Edge.Scene passed = Edge.then(full, x -> {
+            for (int i = 0; i < 4; i++) {
+                x.pass(31);
+            }
+        });
+        Edge.refuses("pass", passed, x -> x.pass(31), Edge.STATE);
+        Edge.refuses("pass, both", passed, x -> x.pass(32), Edge.ARGUMENT);
+    }
+
+    /** Something of everything: a holder, two passed ones, bytes that are wrong, and 5 was found. */
+    private static final Edge.Scene RICH = Edge.then(FULL, x -> {
+        x.pass(4);
+        x.write(4, 5);
+        x.read();
+        x.pass(8);
+        x.write(6, 8);
+        x.feed(1, 1);
+        x.pass(0);
+        x.pass(1);
+    });
+
+    private static void throwingChangesNothing() {
+        Edge.sentence("A call that throws changes nothing, but where it is said.");
+        Edge.answers("a holder", RICH, x -> x.holders(), 1);
+        Edge.answers("two are passed", RICH, x -> x.pass(2), 3);
+        Edge.answers("found", RICH, x -> x.found(), 5);
+        Edge.bytes("bytes", RICH, 15, 7, 0, 1);
+        Edge.refuses("make", RICH, x -> x.make(6), Edge.ARGUMENT);
+        Edge.refuses("buffer", RICH, x -> x.buffer(-1, 9), Edge.ARGUMENT);
+        Edge.refuses("view", RICH, x -> x.view(4, 1, 0, 0), Edge.ARGUMENT);
+        Edge.refuses("put, no value", RICH, x -> x.put(0, 10, 9, 0), Edge.ARGUMENT);
+        Edge.refuses("put, no key", RICH, x -> x.put(1, 8, 1, 0), Edge.ARGUMENT);
+        Edge.refuses("put, six others", RICH, x -> x.put(0, 9, 1, 0), Edge.STATE);
+        Edge.refuses("take", RICH, x -> x.take(2, 41), Edge.ARGUMENT);
+        Edge.refuses("entry, no value", RICH, x -> x.entry(2, 5, 41, 8, 0), Edge.ARGUMENT);
+        Edge.refuses("entry, four others", RICH, x -> x.entry(2, 5, 40, 1, 0), Edge.STATE);
+        Edge.refuses("add, no value", RICH, x -> x.add(3, 8, 60), Edge.ARGUMENT);
+        Edge.refuses("add, five others", RICH, x -> x.add(3, 4, 59), Edge.STATE);
+        Edge.refuses("get", RICH, x -> x.get(0, 6, 0), Edge.BOUNDS);
+        Edge.refuses("pass", RICH, x -> x.pass(9), Edge.ARGUMENT);
+        Edge.refuses("read", RICH, x -> x.read(), Edge.ARGUMENT);
+        Edge.Scene four = Edge.then(RICH, x -> {
+            x.pass(2);
+            x.pass(3);
+        });
+        Edge.refuses("pass, a fifth", four, x -> x.pass(4), Edge.STATE);
+        Edge.Scene unpassed = Edge.then(FULL, x -> {
+            x.pass(4);
+            x.write(4, 5);
+            x.read();
+            x.pass(8);
+            x.write(6, 8);
+            x.feed(1, 1);
+        });
+        Edge.breaks("write: nothing is passed then", RICH, x -> x.write(1, 0), Edge.ARGUMENT, unpassed);
+    }
+
+    private static void throwingChangesNothingWhenAllIsFull() {
+        Edge.sentence("A call that throws changes nothing: when there are 32 objects");
+        Edge.Scene full = Edge.then(RICH, Scenes.more(23));
+        Edge.answers("32", full, x -> x.objects(), 32);
+        Edge.refuses("make", full, x -> x.make(0), Edge.STATE);
+        Edge.refuses("buffer", full, x -> x.buffer(-1, 8), Edge.STATE);
+        Edge.refuses("stamp", full, x -> x.stamp(-1), Edge.STATE);
+        Edge.refuses("read", Edge.then(full, x -> Check.fill(x, 15, 1)), x -> x.read(), Edge.ARGUMENT);
+        Edge.Scene buffer = Edge.then(RICH, x -> {
+            Scenes.more(22).set(x);
+            x.buffer(1, 1);
+        });
+        Edge.refuses("view", buffer, x -> x.view(31, 1, 0, 1), Edge.STATE);
     }
 }
