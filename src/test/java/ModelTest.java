@@ -3,13 +3,15 @@ import java.util.Random;
 
 /** Runs of calls, chosen by seeds that never change, are answered as the model answers them. */
 public final class ModelTest {
-    private static final int RUNS = 5000;
-    private static final int CALLS = 256;
+    private static final int RUNS = 40000;
+    /** What later calls answer is free. */
+    private static final int MOST_CALLS = 512;
 
     private final Random random;
     private final int run;
     private final CopiedGraphs x = new CopiedGraphs();
     private final Model m = new Model();
+    private int calls;
     /** What this run's calls are like, so that runs differ more than calls do. */
     private final boolean deep;
     private final boolean harmless;
@@ -30,8 +32,9 @@ public final class ModelTest {
     public static void main(String[] args) {
         for (int run = 0; run < RUNS; run++) {
             ModelTest test = new ModelTest(run);
-            for (int call = 0; call < CALLS; call++) {
-                test.call(call);
+            int before = 100 + test.pick(350);
+            while (test.calls < before) {
+                test.call();
             }
             test.compareAll();
         }
@@ -109,7 +112,7 @@ public final class ModelTest {
         return pick(20) == 0 ? random.nextInt() : action + 8 * argument;
     }
 
-    private void call(int number) {
+    private void call() {
         int choice = pick(100);
         if (m.objects() < mostObjects && (choice < 16 || m.objects() < 4)) {
             makeOne();
@@ -127,12 +130,7 @@ public final class ModelTest {
         } else {
             compareSome();
         }
-        same("found()", () -> m.found(), () -> x.found());
-        same("holders()", () -> m.holders(), () -> x.holders());
-        same("objects()", () -> m.objects(), () -> x.objects());
-        if (number % 32 == 0) {
-            compareAll();
-        }
+        compareCounts();
         reached[7] = Math.max(reached[7], m.objects());
     }
 
@@ -244,7 +242,7 @@ public final class ModelTest {
         } else {
             reached[answer == -1001 ? 1 : 2]++;
         }
-        compareBytes();
+        compareBytes(m.length() < 16 ? 1 : 16);
         if (pick(3) == 0) {
             readOne();
         }
@@ -267,7 +265,7 @@ public final class ModelTest {
         int length = m.length();
         if (choice < 4 && length > 0) {
             int k = pick(20) == 0 ? number() : pick(length);
-            int v = pick(2) == 0 ? pick(16) : x.byteAt(k) + pick(3) - 1;
+            int v = pick(2) == 0 ? pick(16) : m.byteAt(k) + pick(3) - 1;
             same("spoil(" + k + ", " + v + ")", () -> m.spoil(k, v) ? 1 : 0,
                 () -> x.spoil(k, v) ? 1 : 0);
         } else if (choice < 5) {
@@ -379,26 +377,54 @@ public final class ModelTest {
         same("size(" + far + ")", () -> m.size(far), () -> x.size(far));
     }
 
-    private void compareBytes() {
-        for (int k = 0; k <= m.length(); k++) {
+    private void compareCounts() {
+        switch (pick(3)) {
+            case 0:
+                same("found()", () -> m.found(), () -> x.found());
+                break;
+            case 1:
+                same("holders()", () -> m.holders(), () -> x.holders());
+                break;
+            default:
+                same("objects()", () -> m.objects(), () -> x.objects());
+                break;
+        }
+    }
+
+    /** Every so many bytes, the one behind the last always. */
+    private void compareBytes(int step) {
+        for (int k = m.length(); k >= 0; k -= 1 + pick(step)) {
             int at = k;
             same("byteAt(" + k + ")", () -> m.byteAt(at), () -> x.byteAt(at));
         }
     }
 
+    /** As much as there are calls left for; the objects made last are looked at first. */
     private void compareAll() {
-        compareBytes();
-        for (int o = -1; o <= m.objects(); o++) {
-            int object = o;
-            same("type(" + o + ")", () -> m.type(object), () -> x.type(object));
-            same("size(" + o + ")", () -> m.size(object), () -> x.size(object));
-            for (int k = 0; k <= Math.max(1, m.size(o)); k++) {
-                for (int what = 0; what < 4; what++) {
-                    int at = k;
-                    int which = what;
-                    same("get(" + o + ", " + k + ", " + what + ")",
-                        () -> m.get(object, at, which), () -> x.get(object, at, which));
-                }
+        same("found()", () -> m.found(), () -> x.found());
+        same("holders()", () -> m.holders(), () -> x.holders());
+        same("objects()", () -> m.objects(), () -> x.objects());
+        boolean bytesFirst = pick(2) == 0;
+        if (bytesFirst) {
+            compareBytes(1);
+        }
+        for (int o = m.objects(); o >= -1; o--) {
+            compareObject(o);
+        }
+        if (!bytesFirst) {
+            compareBytes(1);
+        }
+    }
+
+    private void compareObject(int o) {
+        same("type(" + o + ")", () -> m.type(o), () -> x.type(o));
+        same("size(" + o + ")", () -> m.size(o), () -> x.size(o));
+        for (int k = 0; k <= Math.max(0, m.size(o)); k++) {
+            for (int what = 0; what < 4; what++) {
+                int at = k;
+                int which = what;
+                same("get(" + o + ", " + k + ", " + what + ")",
+                    () -> m.get(o, at, which), () -> x.get(o, at, which));
             }
         }
     }
@@ -420,13 +446,19 @@ public final class ModelTest {
         }
     }
 
-    /** The answer that is due; -1001 for an IllegalArgumentException, -1002 for another one. */
-    private long same(String what, Call due, Call got) {
-        Object want = answerOf(due);
-        Object answer = answerOf(got);
+    private void compare(String what, Object want, Object answer) {
         Check.yes("counted", true);
         if (!want.equals(answer)) {
             Check.report("run " + run + ": " + what + " answered " + answer + ", due is " + want);
+        }
+    }
+
+    /** The answer that is due; -1001 for an IllegalArgumentException, -1002 for another one. */
+    private long same(String what, Call due, Call got) {
+        Object want = answerOf(due);
+        calls++;
+        if (calls <= MOST_CALLS) {
+            compare(what, want, answerOf(got));
         }
         if (want instanceof Long) {
             return (Long) want;

@@ -18,6 +18,7 @@ public final class ReadTest {
         places();
         handed();
         depth();
+        tooDeep();
         room();
         longest();
         ringsAnew();
@@ -42,8 +43,6 @@ public final class ReadTest {
     }
 
     private static void wrongPlainValues() {
-        CopiedGraphs x = new CopiedGraphs();
-        Check.reads("20: found before", x, 4, 21, 15, 4, 42);
         int[][] wrong = {{}, {15}, {14}, {0}, {1}, {14, 1}, {16, 1}, {15, 15}, {15, 15, 0}, {15, 16},
             {15, 255}, {15, 128}, {15, 1, 1}, {15, 0, 0}, {15, 4}, {15, 4, 128}, {15, 4, 1, 0},
             {15, 4, 128, 0}, {15, 4, 255, 0}, {15, 4, 128, 128, 0}, {15, 4, 255, 255, 255, 255, 16},
@@ -55,9 +54,11 @@ public final class ReadTest {
             {15, 5, 2, 97, 0}, {15, 5, 4, 97, 97, 97}, {15, 5, 0, 0}, {15, 5, 128, 0},
             {15, 5, 255}, {15, 6, 0}, {15, 7, 0}, {15, 6}, {15, 7}};
         for (int[] bytes : wrong) {
+            CopiedGraphs x = new CopiedGraphs();
+            Check.reads("20: found before", x, 4, 21, 15, 4, 42);
             Check.wrongBytes("19: wrong " + java.util.Arrays.toString(bytes), x, bytes);
+            Check.due("20: found stays", x.found(), 21);
         }
-        Check.due("20: found stays", x.found(), 21);
     }
 
     private static void stamps() {
@@ -188,8 +189,6 @@ public final class ReadTest {
     }
 
     private static void wrongViews() {
-        CopiedGraphs x = new CopiedGraphs();
-        x.buffer(0, 8);
         int[][] wrong = {{15, 12}, {15, 12, 1}, {15, 12, 9, 1, 2, 3, 4, 5, 6, 7, 8, 9},
             {15, 12, 0, 0}, {15, 12, 2, 1}, {15, 12, 128, 0}, {15, 12, 255},
             {15, 13}, {15, 13, 1}, {15, 13, 1, 0}, {15, 13, 1, 0, 0}, {15, 13, 1, 0, 0, 12},
@@ -202,8 +201,12 @@ public final class ReadTest {
             {15, 13, 1, 0, 0, 13, 1, 0, 0, 12, 0}, {15, 13, 1, 0, 0, 14, 0}, {15, 13, 1, 0, 0, 5, 0},
             {15, 9, 2, 1, 13, 1, 0, 0, 12, 0, 1, 13, 1, 0, 0, 6, 2}};
         for (int[] bytes : wrong) {
+            CopiedGraphs x = new CopiedGraphs();
+            x.buffer(0, 8);
             Check.wrongBytes("19: wrong " + java.util.Arrays.toString(bytes), x, bytes);
         }
+        CopiedGraphs x = new CopiedGraphs();
+        x.buffer(0, 8);
         Check.reads("19: a view of its buffer's place", x, 6, 1,
             15, 9, 2, 1, 13, 1, 0, 0, 12, 0, 1, 13, 1, 0, 0, 6, 1);
     }
@@ -282,7 +285,10 @@ public final class ReadTest {
         Check.reads("19: a place at depth 12", x, 6, 0, nest(11, 6, 0));
         x.clear();
         Check.reads("19: a view's buffer at depth 12", x, 6, 0, nest(10, 13, 1, 0, 0, 12, 0));
-        x.clear();
+    }
+
+    private static void tooDeep() {
+        CopiedGraphs x = new CopiedGraphs();
         Check.wrongBytes("19: a value at depth 13", x, nest(12, 1));
         Check.wrongBytes("19: a list at depth 13", x, nest(12, 9, 0));
         Check.wrongBytes("19: a place at depth 13", x, nest(12, 6, 0));
@@ -292,7 +298,7 @@ public final class ReadTest {
         Check.wrongBytes("19: a member at depth 13", x, nest(11, 11, 1, 1));
         Check.wrongBytes("19: in a key at depth 13", x, nest(10, 10, 1, 9, 1, 1, 1, 1));
         Check.wrongBytes("19: in an entry at depth 13", x, nest(10, 10, 1, 1, 9, 1, 1, 1));
-        Check.wrongBytes("19: very deep", x, nest(90, 1));
+        Check.wrongBytes("19: very deep", new CopiedGraphs(), nest(90, 1));
     }
 
     private static void room() {
